@@ -1641,9 +1641,11 @@ public final class KeyDrive {
 
         int leastWornFree() {
             int least = NONE;
+            int fewest = 0;
             for (int p = 0; p < PAGES; p++) {
-                if (end[p] == 0 && (least == NONE || erases[p] < erasesOf(least))) {
+                if (end[p] == 0 && (least == NONE || erases[p] < fewest)) {
                     least = p;
+                    fewest = erases[p];
                 }
             }
             return least;
