@@ -1195,7 +1195,7 @@ public final class KeyDrive {
             return all - moments.toldBy(iterator);
         }
 
-        /** The position of the key that an iterator tells next. What its moment shows never changes, so a count is enough. */
+        /** The position of the key that an iterator tells next: what is seen at its moment stays, so a count tells it. */
         int nextOf(int iterator) {
             int moment = moments.heldAt(SNAPSHOTS + iterator);
             long prefix = moments.prefixOf(iterator);
@@ -1311,7 +1311,7 @@ public final class KeyDrive {
         int firstNotAhead(long keyBits, int keyLength) {
             int low = 0;
             int high = count;
-            while (low < high) {
+            for (int n = 0; n < RECORDS && low < high; n++) {
                 int middle = (low + high) / 2;
                 if (isAhead(bitsAt(middle), lengthAt(middle), keyBits, keyLength)) {
                     low = middle + 1;

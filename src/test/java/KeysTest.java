@@ -369,6 +369,9 @@ public final class KeysTest {
         Check.tape(d, "k");
         d.hash(1);
         due("11 of the latest batch still", d.fault(0), 3);
+        Check.put(d, "k", "v");
+        d.undo(1);
+        due("11 as the tape, it isn't undone", d.fault(0), 3);
         d.batch(0);
         due("11 of no byte", d.fault(0), 0);
         due("11 without a place", d.fault(1), -1);

@@ -113,10 +113,11 @@ public final class LanguageTest {
         }
         holds(11, fields <= FIELDS, c.getName() + " has " + fields + " fields");
         for (Method m : c.getDeclaredMethods()) {
-            holds(1, nested || !Modifier.isStatic(m.getModifiers()) || Modifier.isPrivate(m.getModifiers()), "method " + m);
+            boolean hidden = Modifier.isPrivate(m.getModifiers());
+            holds(1, nested || hidden || !Modifier.isStatic(m.getModifiers()), "method " + m);
             holds(1, nested || (m.getModifiers() & (Modifier.PRIVATE | Modifier.PUBLIC)) != 0, "method " + m);
             holds(11, m.getParameterCount() <= PARAMETERS, "parameters of " + m);
-            if (nested || Modifier.isPrivate(m.getModifiers())) {
+            if (nested || hidden) {
                 holds(1, !isPublicName(m.getName()), "the name of " + m);
             }
         }
@@ -221,7 +222,8 @@ public final class LanguageTest {
                 }
             }
             open.remove(from);
-            List<String> way = new ArrayList<>(List.of(from.getEnclosingElement().getSimpleName() + "." + from.getSimpleName()));
+            List<String> way = new ArrayList<>();
+            way.add(from.getEnclosingElement().getSimpleName() + "." + from.getSimpleName());
             way.addAll(longest);
             known.put(from, way);
             return way;

@@ -256,7 +256,7 @@ public final class SpaceTest {
         due("33 -1", d.trimmed(-1), -3);
         due("33 3", d.trimmed(3), -3);
         due("33 nothing", d.trimmed(0), 0);
-        // Page 0 has 40 dead and 20 others, page 2 has 20 dead alone; what leaves page 0 goes where page 2 is not swept yet.
+        // Page 0 has 40 dead bytes and 20 others, page 2 has 44 dead ones alone and is the tightest for those 20.
         Check.putSize(d, "aa", 40);
         Check.putSize(d, "ab", 20);
         Check.putSize(d, "ba", 40);
