@@ -6,6 +6,7 @@ public final class KeysTest {
         put();
         putWithoutRoom();
         putSweeps();
+        putOfMany();
         get();
         answer();
         remove();
@@ -120,6 +121,24 @@ public final class KeysTest {
         due("3 not swept", d.page(7, 3), 46);
         due("3 to the free page of fewest erases", d.page(23, 0), 46);
         due("3 one stays free", d.count(1), 1);
+    }
+
+    private static void putOfMany() {
+        KeyDrive d = new KeyDrive();
+        for (int i = 0; i < 40; i++) {
+            StringBuilder puts = new StringBuilder();
+            StringBuilder removals = new StringBuilder();
+            for (int j = 0; j < 12; j++) {
+                String key = "" + (char) i + (char) j;
+                puts.append(Check.deedPut(key, ""));
+                removals.append(Check.deedRemove(key));
+            }
+            due("3 put", Check.batch(d, puts.toString()), 12);
+            due("3 removed", Check.batch(d, removals.toString()), 12);
+        }
+        due("3 as many keys as come may go", d.count(2), 0);
+        due("3 the next one", Check.put(d, "k", "v"), 961);
+        due("3 is there", Check.get(d, "k", -1), 1);
     }
 
     private static void get() {
@@ -459,6 +478,12 @@ public final class KeysTest {
         due("14 now, not then", d.diff(1, 0), 2);
         due("14 then, not now", d.diff(1, 1), 1);
         due("14 by other versions", d.diff(1, 2), 2);
+        KeyDrive e = new KeyDrive();
+        e.snap(0);
+        Check.put(e, "a", "v");
+        due("14 at moment 0, now, not then", e.diff(0, 0), 1);
+        due("14 at moment 0, then, not now", e.diff(0, 1), 0);
+        due("14 at moment 0, both", e.diff(0, 2), 0);
     }
 
     private static void roll() {
@@ -489,6 +514,13 @@ public final class KeysTest {
         due("15 undone as a whole", d.undo(1), 8);
         due("15 SEQ then", d.count(0), 6);
         due("15 aa is back", Check.get(d, "aa", -1), 3);
+        KeyDrive e = new KeyDrive();
+        e.snap(0);
+        Check.put(e, "a", "");
+        Check.put(e, "b", "");
+        due("15 to moment 0", e.roll(0), 2);
+        due("15 nothing is seen", e.keys(-1), 0);
+        due("15 nothing stays", e.count(2), 0);
     }
 
     private static void rollWithoutRoom() {
@@ -521,6 +553,11 @@ public final class KeysTest {
         Check.put(d, "c", "");
         due("16 now", d.keys(-1), 1);
         due("16 then", d.keys(3), 2);
+        KeyDrive e = new KeyDrive();
+        e.snap(0);
+        Check.put(e, "a", "");
+        due("16 at moment 0", e.keys(0), 0);
+        due("16 nothing is summed then", e.sum(0), 7);
     }
 
     private static void groups() {

@@ -174,5 +174,16 @@ public final class MomentsTest {
         Check.remove(e, "a");
         due("25 the iterator holds it yet", e.unsnap(0), 0);
         due("25 now it is dead", e.close(0), 10);
+        KeyDrive f = new KeyDrive();
+        f.snap(2);
+        f.snap(3);
+        for (int i = 0; i < 3; i++) {
+            Check.open(f, i, "", -1);
+        }
+        due("25 the last", f.close(2), 0);
+        due("25 two are open", f.count(5), 3);
+        due("25 the middle", f.close(1), 0);
+        due("25 one is open", f.count(5), 1);
+        due("25 snapshots hold", f.count(4), 12);
     }
 }

@@ -40,6 +40,13 @@ public final class SpaceTest {
         placesByRule(0, 2);
         placesByRule(1, 0);
         placesByRule(2, 1);
+        KeyDrive e = new KeyDrive();
+        Check.putSize(e, "aa", 40);
+        Check.putSize(e, "bb", 40);
+        Check.putSize(e, "cc", 40);
+        e.terms(0, 2);
+        Check.putSize(e, "dd", 12);
+        due("26 of like ones the lowest", e.count(3), 0);
     }
 
     /** Pages 0 (40 taken), 1 (46) and 2 (30, the LAST): where a record of 12 comes. */
@@ -73,6 +80,10 @@ public final class SpaceTest {
         due("27 records that aren't dead", d.page(0, 4), 3);
         due("27 ERASES", d.page(0, 5), 0);
         due("27 another", d.page(23, 0), 0);
+        Check.putSize(d, "dd", 46);
+        due("27 LIVE on another", d.page(1, 1), 46);
+        due("27 LIVE as before", d.page(0, 1), 26);
+        d.undo(1);
         d.sweep(0);
         due("27 free", d.page(0, 0), 0);
         due("27 no record", d.page(0, 4), 0);
@@ -175,6 +186,7 @@ public final class SpaceTest {
         Check.due("30 whole", Check.answer(d), "vvvvvvvv");
         due("30 undone", d.undo(1), 4);
         due("30 as it was", d.page(0, 0), 36);
+        valuesMove();
         KeyDrive e = new KeyDrive();
         Check.putSize(e, "aa", 10);
         Check.remove(e, "aa");
@@ -182,6 +194,25 @@ public final class SpaceTest {
         due("30 it is the LAST no more", e.count(3), -1);
         Check.putSize(e, "bb", 10);
         due("30 the next one comes to a less worn page", e.count(3), 1);
+    }
+
+    private static void valuesMove() {
+        KeyDrive d = new KeyDrive();
+        Check.put(d, "a", "first one");
+        Check.put(d, "b", "second");
+        Check.put(d, "c", "third one here");
+        Check.remove(d, "b");
+        d.sweep(0);
+        Check.put(d, "e", "something else, longer than both");
+        due("30 nothing else is on its old place", Check.version(d, "e", 0, 1), 2);
+        due("30 of the first", Check.get(d, "a", -1), 9);
+        Check.due("30 the first value", Check.answer(d), "first one");
+        due("30 of the third", Check.get(d, "c", -1), 14);
+        Check.due("30 the third value", Check.answer(d), "third one here");
+        Check.remove(d, "a");
+        d.sweep(1);
+        Check.get(d, "c", -1);
+        Check.due("30 moved again", Check.answer(d), "third one here");
     }
 
     private static void sweepByRules() {
@@ -236,7 +267,7 @@ public final class SpaceTest {
         KeyDrive d = Check.filled(6, 46);
         due("32 0", d.clear(0), -3);
         due("32 25", d.clear(25), -3);
-        due("32 so many are", d.clear(18), 0);
+        due("32 so many are", d.clear(1), 0);
         due("32 can be undone all the same", d.count(6), 7);
         due("32 none has a dead record", d.clear(24), 0);
         for (int i = 0; i < 4; i++) {
@@ -269,6 +300,8 @@ public final class SpaceTest {
         due("33 page 0 first: its record may move twice", d.trimmed(2), 40);
         due("33 on paper", d.space(2), 84);
         due("33 nothing was swept", d.wear(2), 0);
+        d.sweep(0);
+        due("33 without what was swept ahead", d.trimmed(0), 20);
         int calls = d.count(6);
         d.trimmed(0);
         due("33 can't be undone", d.count(6), calls);
@@ -334,6 +367,8 @@ public final class SpaceTest {
         Check.remove(f, Check.key(2));
         due("36 two pages", f.would(46), 2);
         due("36 on paper", f.wear(2), 0);
+        f.sweep(0);
+        due("36 without what was swept ahead", f.would(46), 1);
     }
 
     private static void packs() {
@@ -383,6 +418,9 @@ public final class SpaceTest {
         due("38 in order they take four", e.packs(1), 4);
         due("38 the greatest first take three", e.best(1), 3);
         due("38 of like rules the lowest", e.best(0), 0);
+        KeyDrive f = new KeyDrive();
+        Check.putSize(f, "aa", 6);
+        due("38 the least size counts", f.best(1), 1);
     }
 
     private static void wear() {
