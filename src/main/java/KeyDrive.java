@@ -1272,32 +1272,44 @@ public final class KeyDrive {
             System.arraycopy(other.record, 0, record, 0, RECORDS * VERSIONS);
         }
 
-        boolean isPosition(int position) {
-            return position >= 0 && position < count && position < RECORDS;
+        static boolean isSlot(int slot) {
+            return slot >= 0 && slot < RECORDS;
         }
 
-        boolean isVersion(int position, int i) {
-            return isPosition(position) && i >= 0 && i < VERSIONS && i < versionCount[order[position]];
+        int slotAt(int position) {
+            return position >= 0 && position < count && position < RECORDS ? order[position] : NONE;
+        }
+
+        /** Where a version of a key stands in the rows of numbers and records, or NONE. */
+        int rowOf(int position, int i) {
+            int slot = slotAt(position);
+            boolean stays = isSlot(slot) && i >= 0 && i < VERSIONS && i < versionCount[slot];
+            return stays ? slot * VERSIONS + i : NONE;
         }
 
         long bitsAt(int position) {
-            return isPosition(position) ? bits[order[position]] : 0L;
+            int slot = slotAt(position);
+            return isSlot(slot) ? bits[slot] : 0L;
         }
 
         int lengthAt(int position) {
-            return isPosition(position) ? length[order[position]] : 0;
+            int slot = slotAt(position);
+            return isSlot(slot) ? length[slot] : 0;
         }
 
         int versionsAt(int position) {
-            return isPosition(position) ? versionCount[order[position]] : 0;
+            int slot = slotAt(position);
+            return isSlot(slot) ? versionCount[slot] : 0;
         }
 
         int numberAt(int position, int i) {
-            return isVersion(position, i) ? number[order[position] * VERSIONS + i] : NONE;
+            int row = rowOf(position, i);
+            return row >= 0 && row < number.length ? number[row] : NONE;
         }
 
         int recordAt(int position, int i) {
-            return isVersion(position, i) ? record[order[position] * VERSIONS + i] : NONE;
+            int row = rowOf(position, i);
+            return row >= 0 && row < record.length ? record[row] : NONE;
         }
 
         int allVersions() {
@@ -1328,16 +1340,19 @@ public final class KeyDrive {
         }
 
         boolean isKeyAt(int position, long keyBits, int keyLength) {
-            return isPosition(position) && bitsAt(position) == keyBits && lengthAt(position) == keyLength;
+            return position < count && bitsAt(position) == keyBits && lengthAt(position) == keyLength;
         }
 
         /** The position of a key, which gets one if it has none. */
         int settledPosition(long keyBits, int keyLength) {
             int position = firstNotAhead(keyBits, keyLength);
-            if (isKeyAt(position, keyBits, keyLength) || position < 0 || count >= RECORDS) {
+            if (isKeyAt(position, keyBits, keyLength) || position < 0 || count < 0 || count >= RECORDS) {
                 return position;
             }
             int slot = order[count];
+            if (!isSlot(slot)) {
+                return NONE;
+            }
             for (int i = count; i > position; i--) {
                 order[i] = order[i - 1];
             }
@@ -1350,27 +1365,27 @@ public final class KeyDrive {
         }
 
         void addVersion(int position, int newNumber, int newRecord) {
-            int n = versionsAt(position);
-            if (isPosition(position) && n < VERSIONS) {
-                versionCount[order[position]] = n + 1;
-                setVersion(position, n, newNumber, newRecord);
+            int slot = slotAt(position);
+            if (isSlot(slot) && versionCount[slot] < VERSIONS) {
+                versionCount[slot]++;
+                setVersion(position, versionCount[slot] - 1, newNumber, newRecord);
             }
         }
 
         void setVersion(int position, int i, int newNumber, int newRecord) {
-            if (isVersion(position, i)) {
-                int at = order[position] * VERSIONS + i;
-                number[at] = newNumber;
-                record[at] = newRecord;
+            int row = rowOf(position, i);
+            if (row >= 0 && row < number.length && row < record.length) {
+                number[row] = newNumber;
+                record[row] = newRecord;
             }
         }
 
         /** The first n versions stay; a key without any is taken out. */
         void keepVersions(int position, int n) {
-            if (!isPosition(position)) {
+            int slot = slotAt(position);
+            if (!isSlot(slot)) {
                 return;
             }
-            int slot = order[position];
             versionCount[slot] = n;
             if (n > 0) {
                 return;
@@ -1384,10 +1399,10 @@ public final class KeyDrive {
 
         /** The record by which a key is seen at a moment. */
         int seenAt(int position, int moment) {
-            if (!isPosition(position)) {
+            int slot = slotAt(position);
+            if (!isSlot(slot)) {
                 return NONE;
             }
-            int slot = order[position];
             for (int i = Math.min(versionCount[slot], VERSIONS) - 1; i >= 0; i--) {
                 if (number[slot * VERSIONS + i] <= moment) {
                     return record[slot * VERSIONS + i];
