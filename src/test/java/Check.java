@@ -34,7 +34,9 @@ final class Check {
                 int b = at + i < text.length() ? text.charAt(at + i) : 0;
                 words[i / 4] |= b << (24 - 8 * (i % 4));
             }
-            d.feed(words[0], words[1], words[2], words[3], words[4]);
+            if (d.feed(words[0], words[1], words[2], words[3], words[4]) < 0) {
+                throw new IllegalStateException("the tape has no room for '" + text + "'");
+            }
         }
     }
 
@@ -43,8 +45,11 @@ final class Check {
         return d.put(key.length(), value.length());
     }
 
-    /** A put of a record of a size; the key has two bytes. */
+    /** A put of a record of a size: 46 at the most, if the key has two bytes. */
     static int putSize(KeyDrive d, String key, int size) {
+        if (size % 2 != 0 || size > 44 + key.length()) {
+            throw new IllegalArgumentException("no value makes a record of " + size + " with " + key);
+        }
         return put(d, key, "v".repeat(size - 4 - key.length()));
     }
 
