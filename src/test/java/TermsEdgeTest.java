@@ -1106,6 +1106,13 @@ public final class TermsEdgeTest {
             due("number", Check.version(d, Check.key(i), 0, 0), i + 1);
             due("page", Check.version(d, Check.key(i), 0, 1), i / 10);
         }
+        Check.remove(d, Check.key(0));
+        due("nine come to page 23", d.sweep(0), 54);
+        Check.put(d, "zz", "");
+        d.terms(1, 1);
+        d.undo(1);
+        Check.remove(d, "zz");
+        due("the tenth there is dead", d.page(23, 3), 6);
         for (int i = 0; i < 3; i++) {
             iteratorIsUndone(i);
         }
