@@ -37,6 +37,11 @@ final class Edge {
         begin("Terms", all.replace("```text", " ").replace("```", " ").replaceAll("==== \\d\\.", " "));
     }
 
+    /** How long an object is used. */
+    static void use() {
+        begin("What it is", find("\\n(An object is used [^\\n]*)\\n"));
+    }
+
     static void promise(int n) {
         begin("promise " + n, find("## Promise " + n + ": \\w[^\\n]*\\n+`[^`]*`: (.*?)\\n## "));
     }

@@ -1,9 +1,11 @@
 import java.util.List;
 import java.util.function.ToLongFunction;
 
-/** The sentences of the document's section "Terms", with the boundary cases that they name. */
+/** The sentences of the document's section "Terms", with the boundary cases that they name; ahead of them, its bound. */
 public final class TermsEdgeTest {
     public static void main(String[] args) {
+        Edge.use();
+        calls();
         Edge.terms();
         boundsOfKeyAndValue();
         orderOfKeys();
@@ -50,6 +52,18 @@ public final class TermsEdgeTest {
 
     private static void due(String what, long got, long want) {
         Edge.due(what, got, want);
+    }
+
+    private static void calls() {
+        Edge.says("An object is used for at most 512 calls after it has been made; what later calls answer is free.");
+        KeyDrive d = new KeyDrive();
+        for (int calls = 0; calls < 508; calls += 4) {
+            due("three feeds and fifteen puts", Check.batch(d, Check.deedPut("k", "").repeat(15)), 15);
+        }
+        due("the 509th call", d.feed(0x6b767676, 0, 0, 0, 0), 20);
+        due("the 510th", d.put(1, 3), 127 * 15 + 1);
+        due("the 511th", d.wear(0), 127 * 15 * 6 + 8);
+        due("the 512th", d.count(0), 127 * 15 + 1);
     }
 
     // ---- keys and versions
