@@ -543,6 +543,16 @@ public final class TermsEdgeTest {
         due("of a free page: its first byte", Check.version(d, "aa", 0, 2), 0);
         Check.putSize(d, "bb", 18);
         due("of a page in use", Check.version(d, "bb", 0, 2), 46);
+        KeyDrive e = new KeyDrive();
+        for (int i = 0; i < 4; i++) {
+            Check.put(e, Check.key(i), valueOf(i));
+            Check.putSize(e, "k" + i, 10);
+        }
+        e.terms(0, 1);
+        Check.put(e, Check.key(4), valueOf(4).substring(0, 16));
+        due("between others", Check.version(e, Check.key(4), 0, 2), 42);
+        due("on the lowest page", Check.version(e, Check.key(4), 0, 1), 0);
+        valuesAre(e, 0, 1, 2, 3);
     }
 
     private static void sweeping() {
@@ -1120,7 +1130,7 @@ public final class TermsEdgeTest {
             due("number", Check.version(d, Check.key(i), 0, 0), i + 1);
             due("page", Check.version(d, Check.key(i), 0, 1), i / 10);
         }
-        Check.remove(d, Check.key(0));
+        Check.remove(d, Check.key(5));
         due("nine come to page 23", d.sweep(0), 54);
         Check.put(d, "zz", "");
         d.terms(1, 1);
