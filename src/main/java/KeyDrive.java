@@ -12,6 +12,7 @@ public final class KeyDrive {
     private static final int KEY_MOST = 8;
     private static final int VALUE_MOST = 40;
     private static final int TAPE_MOST = 60;
+    private static final long SIGN = 1L << 63;
     private static final int HASHES = 8191;
     private static final int BUCKETS = 8;
     private static final int HOT_MOST = 3;
@@ -763,7 +764,8 @@ public final class KeyDrive {
         if (bits == otherBits) {
             return length < otherLength;
         }
-        return bits + Long.MIN_VALUE < otherBits + Long.MIN_VALUE;
+        // Bytes have no sign, but longs are compared with theirs.
+        return (bits ^ SIGN) < (otherBits ^ SIGN);
     }
 
     private static int alikeBytes(long bits, int length, long otherBits, int otherLength) {

@@ -93,7 +93,7 @@ public final class LanguageTest {
             holds(2, !code.contains(sign), "the sign " + sign);
         }
         Matcher library = Pattern.compile("\\b(Math|System|Long|Integer|Arrays)\\.(\\w+)").matcher(code);
-        Set<String> allowed = Set.of("Math.max", "Math.min", "System.arraycopy", "Long.MIN_VALUE");
+        Set<String> allowed = Set.of("Math.max", "Math.min", "System.arraycopy");
         while (library.find()) {
             holds(4, allowed.contains(library.group()), "the library's " + library.group());
         }
@@ -108,7 +108,8 @@ public final class LanguageTest {
         for (Field f : c.getDeclaredFields()) {
             boolean constant = Modifier.isStatic(f.getModifiers());
             fields += constant ? 0 : 1;
-            holds(5, !constant || Modifier.isFinal(f.getModifiers()) && f.getType() == int.class, "constant " + f);
+            boolean number = f.getType() == int.class || f.getType() == long.class;
+            holds(5, !constant || Modifier.isFinal(f.getModifiers()) && number, "constant " + f);
             holds(1, nested || Modifier.isPrivate(f.getModifiers()) || f.getName().equals("NONE"), "field " + f);
         }
         holds(11, fields <= FIELDS, c.getName() + " has " + fields + " fields");
